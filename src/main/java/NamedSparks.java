@@ -1402,11 +1402,11 @@ public final class NamedSparks {
         static final int TEST = 4;
         private static final int SLOTS = 5;
         /** A step is what to do, and above these bits the number that goes with it. */
-        private static final int STEP_BITS = 5;
-        private static final int STEP_MASK = 31;
+        static final int STEP_BITS = 5;
+        static final int STEP_MASK = 31;
 
         private final int[] heads;
-        private final int[] steps;
+        final int[] steps;
         int clauses;
         int length;
 
@@ -1471,14 +1471,6 @@ public final class NamedSparks {
                 steps[step] = length << STEP_BITS | steps[step] & STEP_MASK;
             }
         }
-
-        int whatOf(int step) {
-            return step >= 0 && step < length ? steps[step] & STEP_MASK : Calculator.ENDS;
-        }
-
-        int numberOf(int step) {
-            return step >= 0 && step < length ? steps[step] >> STEP_BITS : 0;
-        }
     }
 
     /** Works the steps of SUMS and TESTS. */
@@ -1504,9 +1496,10 @@ public final class NamedSparks {
         /** The value of a SUM, of a TEST (1, 0), whose steps start there; BROKEN. */
         int value(Text text, int start, int[] words) {
             int top = -1;
-            for (int at = start; at < text.length; at++) {
-                int what = text.whatOf(at);
-                int number = text.numberOf(at);
+            int end = Math.min(text.length, text.steps.length);
+            for (int at = Math.max(0, start); at < end; at++) {
+                int what = text.steps[at] & Text.STEP_MASK;
+                int number = text.steps[at] >> Text.STEP_BITS;
                 if (what == NUMBER || what == WORD) {
                     top++;
                     if (top >= stack.length || (what == WORD && number >= words.length)) {

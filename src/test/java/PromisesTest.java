@@ -1233,6 +1233,19 @@ public final class PromisesTest {
         law(1, "shuns if minute > 0 or heat > 5");
         go("force", 1);
         due(4, "chain", 0, NONE);
+        begin("26, five CALLS");
+        go("spark", 24, 5, 5);
+        int[] row = {3, 4, 9, 14, 19};
+        for (int i = 0; i < 5; i++) {
+            go("person", row[i], 1);
+            go("knows", i, 1);
+        }
+        go("terms", 3, 3);
+        due(5, "chain", 0, NONE);
+        for (int i = 0; i < 5; i++) {
+            due(4 - i, "chain", 0, i);
+        }
+        due(NONE, "chain", 0, 5);
         begin("26, in HOME's CELL, but not called there");
         go("spark", 0, 5, 5);
         due(NONE, "chain", 0, NONE);
@@ -1262,6 +1275,8 @@ public final class PromisesTest {
             due(i, "answer", i % 3, i % 2);
         }
         due(-5, "answer", 0, 1);
+        due(-5, "status");
+        due(1, "count", 10);
         due(-2, "answer", 9, 1);
         due(-1, "answer", 0, 9);
         due(6, "count", 3);
@@ -1705,6 +1720,31 @@ public final class PromisesTest {
         go("terms", 2, 4);
         due(0, "back", 0);
         due(3, "count", 15);
+        begin("41, ANSWERS and NAMES");
+        go("spark", 12, 5, 11);
+        go("spark", 12, 5, 22);
+        go("person", 1, 1);
+        go("knows", 0, 1);
+        go("person", 1, 1);
+        go("knows", 1, 2);
+        go("answer", 0, 1);
+        go("image", 0);
+        due(0, "alike", NONE);
+        due(1, "which");
+        due(1, "forget");
+        go("answer", 1, 0);
+        go("answer", 0, 0);
+        due(0, "which");
+        due(0, "back", 0);
+        due(1, "which");
+        due(1, "count", 3);
+        go("image", 1);
+        go("forget");
+        go("answer", 0, 0);
+        due(2, "which");
+        due(0, "back", 1);
+        due(1, "which");
+        due(0, "alike", NONE);
         begin("40 leaves what can be undone, 41 REFUSED too");
         go("pass");
         go("image", 0);
