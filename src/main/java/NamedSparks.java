@@ -55,7 +55,7 @@ public final class NamedSparks {
     private static final int MOST_TIMES = 20;
     private static final int MOST_VALUE = 1000000000;
     /** No SUM within its limits has this value, so that it can stand for BROKEN. */
-    private static final int BROKEN = Integer.MIN_VALUE;
+    private static final int BROKEN = -2 * MOST_VALUE;
 
     private static final String LAW_VERBS = "goes burns shuns bars";
     private static final int GOES = 0;

@@ -1,4 +1,5 @@
 import java.io.IOException;
+import java.lang.management.ManagementFactory;
 import java.lang.reflect.Field;
 import java.lang.reflect.Method;
 import java.lang.reflect.Modifier;
@@ -22,7 +23,11 @@ public final class LanguageTest {
             + "int alike 1, int anew 1, int guard 2, int lessons 1, long drift 3, int sodden 2, int hot 2, "
             + "int nights 2, int drawn 2, int image 1, int back 1, int count 1, int status 0";
     private static final Set<String> LIBRARY = new HashSet<>(Arrays.asList("Arrays.fill", "Arrays.copyOf",
-            "Integer.bitCount", "Integer.MIN_VALUE", "Math.max", "Math.min", "System.arraycopy"));
+            "Integer.bitCount", "Math.max", "Math.min", "System.arraycopy"));
+
+    private static final Path CLASS = Path.of("src/main/java/NamedSparks.java");
+    /** A run may make 7,300,000 fields and elements, of four bytes at least; a tenth of that leaves room. */
+    private static final long MOST_BYTES = 4L * 7300000 / 10;
 
     private static int wrong = 0;
 
@@ -37,7 +42,11 @@ public final class LanguageTest {
             members(inside);
         }
         members(NamedSparks.class);
-        text(withoutComments(Files.readString(Path.of("src/main/java/NamedSparks.java"))));
+        text(withoutComments(Files.readString(CLASS)));
+        for (String broken : new Source(CLASS).broken()) {
+            check(false, broken);
+        }
+        littleIsMade();
         System.out.println(wrong == 0 ? "the rules are kept" : wrong + " rules are not kept");
         if (wrong != 0) {
             System.exit(1);
@@ -94,6 +103,25 @@ public final class LanguageTest {
             }
         }
         check(held <= 20, of + " has some twenty fields: " + held);
+    }
+
+    /** Rule 12: what the dearest run makes: 512 calls of which as many as can be keep a new LAW. */
+    private static void littleIsMade() {
+        com.sun.management.ThreadMXBean threads =
+                (com.sun.management.ThreadMXBean) ManagementFactory.getThreadMXBean();
+        long before = threads.getThreadAllocatedBytes(Thread.currentThread().getId());
+        NamedSparks x = new NamedSparks();
+        x.image(0);
+        for (int made = 0; made < 235; made++) {
+            // goes x*9+[y-8]*7%6+5
+            x.feed(0x676f6573, 0x20782a39, 0x2b5b792d, 0x385d2a37, 0x25362b35);
+            check(x.law() == made % 6, "LAW " + made % 6 + " is kept");
+            if (made % 6 == 5) {
+                x.back(0);
+            }
+        }
+        long made = threads.getThreadAllocatedBytes(Thread.currentThread().getId()) - before;
+        check(made < MOST_BYTES, "a run makes " + made + " bytes");
     }
 
     private static String withoutComments(String text) {
