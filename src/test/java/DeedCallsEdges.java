@@ -281,7 +281,8 @@ final class DeedCallsEdges extends Edges {
     }
 
     private static void nothingAhead() {
-        edge("23", "(nothing that was ahead of a spark(), person(), terms(), row() that was not REFUSED can be undone).");
+        edge("23", "(nothing that was ahead of a spark(), person(), terms(), row() that was not "
+                + "REFUSED can be undone).");
         Call[] taken = {new Call("spark", 12, 5, 5), new Call("person", 12, 5), new Call("terms", 2, 0),
             new Call("row"), new Call("terms", 0, 1)};
         for (Call call : taken) {

@@ -15,7 +15,8 @@ final class DeedsEdges extends Edges {
     }
 
     private static void calling() {
-        edge("III: 7, 19", "To CALL a SPARK that is not GONE, that the PERSON KNOWS, that is no FARTHER than its REACH, "
+        edge("III: 7, 19", "To CALL a SPARK that is not GONE, that the PERSON KNOWS, that is no "
+                + "FARTHER than its REACH, "
                 + "does not SHUN it: it is in the PERSON's CELL;");
         // SPARK 0 is 3 FAR from all of them, of whom 1 reaches 2, 2 does not KNOW it, 3 is SHUNNED
         sparks(12, 24);

@@ -212,7 +212,8 @@ final class KeepCallsEdges extends Edges {
     }
 
     private static void statusCalls() {
-        edge("43", "What the latest call of spark, person, knows, terms, row, law, orders, force, call, wet, walk, pass, "
+        edge("43", "What the latest call of spark, person, knows, terms, row, law, orders, force, "
+                + "call, wet, walk, pass, "
                 + "undo, answer, nights, image, back was REFUSED by;");
         Call[] wrong = {new Call("spark", 12, 0, 5), new Call("spark", 3, 5, 5), new Call("person", 12, 9),
             new Call("person", 3, 5), new Call("knows", 0, 64), new Call("knows", 2, 0), new Call("terms", 4, 0),

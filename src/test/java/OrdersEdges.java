@@ -113,7 +113,8 @@ final class OrdersEdges extends Edges {
     }
 
     private static void runs() {
-        edge("II: 15", "Run CLAUSE by CLAUSE, each as often as TIMES tell (once without); each time its \"if\" is asked "
+        edge("II: 15", "Run CLAUSE by CLAUSE, each as often as TIMES tell (once without); each time "
+                + "its \"if\" is asked "
                 + "(not run, if it is not so or BROKEN), then its SUMS from the left.");
         // each time anew: six CELLS, of which the last is not run
         orders(5, "wet done times 20 if done<5");
@@ -160,12 +161,14 @@ final class OrdersEdges extends Edges {
     }
 
     private static void looseHeatCell() {
-        edge("II: 15", "loose: how many SPARKS are not GONE, heat, cell: -1 without such a SPARK (cell: if GONE, too).");
+        edge("II: 15", "loose: how many SPARKS are not GONE, heat, cell: -1 without such a SPARK "
+                + "(cell: if GONE, too).");
         orders(1, "pass if loose=0 and heat 0=0-1 and cell 0=0-1 and heat 5=0-1 and cell 5=0-1");
         again();
         sparks(24, 1);
         people(0);
-        orders(1, "wet 9 if loose=2 and heat 0=5 and cell 0=24 and heat 1=5 and cell 1=1 and heat 2=0-1 and cell 2=0-1");
+        orders(1, "wet 9 if loose=2 and heat 0=5 and cell 0=24 and heat 1=5 and cell 1=1 and heat "
+                + "2=0-1 and cell 2=0-1");
         due(8, "call", 0, 0);
         orders(1, "wet 8 if loose=1 and heat 0=0 and cell 0=0-1 and cell 1=1");
         orders(2, "call 1 by 0;wet 7 if loose=0 and heat 1=0 and cell 1=0-1");

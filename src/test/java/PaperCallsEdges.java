@@ -509,7 +509,8 @@ final class PaperCallsEdges extends Edges {
     }
 
     private static void drawnCalls() {
-        edge("39", "Behind the latest NIGHTS the CELL (what 0; NONE: GONE), HEAT (1) of SPARK k, the CELL of PERSON k (2).");
+        edge("39", "Behind the latest NIGHTS the CELL (what 0; NONE: GONE), HEAT (1) of SPARK k, "
+                + "the CELL of PERSON k (2).");
         sparks(12, 1);
         people(6, 24);
         go("knows", 0, 0);

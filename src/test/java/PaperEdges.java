@@ -101,7 +101,8 @@ final class PaperEdges extends Edges {
         people(1);
         idle(NONE, "chain", 0, NONE);
 
-        edge("III: 26", "(nobody walking, no MINUTE passing; SHUNNED as now but for x, y, kind, far of where it is then)");
+        edge("III: 26", "(nobody walking, no MINUTE passing; SHUNNED as now but for x, y, kind, far "
+                + "of where it is then)");
         String[] tests = {"x=2", "y=1", "kind=2", "far=3", "x=4", "heat=4", "minute=1", "mood=1", "name=1", "spark=1"};
         int[] calls = {NONE, NONE, NONE, NONE, 2, 2, 2, 2, 2, 2};
         for (int i = 0; i < tests.length; i++) {
@@ -277,7 +278,8 @@ final class PaperEdges extends Edges {
     }
 
     private static void guards() {
-        edge("III: 33", "A GUARD though any k 0 .. 4 of it be away: the fewest PEOPLE of whom each SPARK that is not GONE "
+        edge("III: 33", "A GUARD though any k 0 .. 4 of it be away: the fewest PEOPLE of whom each "
+                + "SPARK that is not GONE "
                 + "is KNOWN to k and 1 or more; the lowest as bits.");
         for (int k = 0; k <= 4; k++) {
             idle(0, "guard", k, 0);
@@ -365,7 +367,8 @@ final class PaperEdges extends Edges {
         due(1, "call", 1, 0);
         idle(NONE, "drift", 1, 0, 0);
 
-        edge("III: 35", "each MINUTE by WIND of ten each WAY 1 .. 4 (to a wall, beyond the edge: it stays), else it stays:");
+        edge("III: 35", "each MINUTE by WIND of ten each WAY 1 .. 4 (to a wall, beyond the edge: it "
+                + "stays), else it stays:");
         for (int wind = 0; wind <= 2; wind++) {
             again();
             sparks(12, 0, 2);

@@ -241,7 +241,8 @@ final class TermsEdges extends Edges {
     }
 
     private static void termNumbers() {
-        edge("I: 9, 42", "TERMS: 0 MINUTE 0 .. 999 (0 at first), 1 WIND 0 .. 2 (1), 2 MOOD 0 .. 9 (0), 3 HOME 0 .. 24.");
+        edge("I: 9, 42", "TERMS: 0 MINUTE 0 .. 999 (0 at first), 1 WIND 0 .. 2 (1), 2 MOOD 0 .. 9 "
+                + "(0), 3 HOME 0 .. 24.");
         int[] first = {0, 1, 0, 0};
         int[] most = {999, 2, 9, 24};
         for (int what = 0; what <= 3; what++) {
