@@ -1,15 +1,19 @@
 import java.io.IOException;
 import java.nio.file.Files;
 import java.nio.file.Path;
+import java.util.ArrayList;
 import java.util.LinkedHashMap;
+import java.util.List;
 import java.util.Map;
+import java.util.regex.Matcher;
+import java.util.regex.Pattern;
 
-/** The document's sentences: which of them tests have named, and which none has. */
+/** The document's sentences, from its first line on: which of them tests have named, and which none has. */
 final class Document {
     private static final Path PLACE = Path.of("../shared/DOC.md");
     private static final int PROMISES = 43;
 
-    /** By "I" .. "IV", "constants", "1" .. "43". */
+    /** By "What it is", "The public face", "I" .. "IV", "constants", "1" .. "43". */
     private final Map<String, String> sections = new LinkedHashMap<>();
     private final Map<String, boolean[]> named = new LinkedHashMap<>();
 
@@ -19,10 +23,12 @@ final class Document {
             return;
         }
         String text = Files.readString(PLACE).replaceAll("\\s+", " ");
-        String[] ends = {"I. CELLS", "II. TEXTS", "III. To CALL", "IV. NIGHTS", "The constants: ", "## Promise 1:"};
-        String[] names = {"I", "II", "III", "IV", "constants"};
+        String[] ends = {"## What it is", "## The public face", "## Terms", "I. CELLS", "II. TEXTS", "III. To CALL",
+            "IV. NIGHTS", "The constants: ", "## Promise 1:"};
+        String[] names = {"What it is", "The public face", "Terms", "I", "II", "III", "IV", "constants"};
         for (int i = 0; i < names.length; i++) {
-            keep(names[i], text.substring(text.indexOf(ends[i]), text.indexOf(ends[i + 1])));
+            String section = text.substring(text.indexOf(ends[i]), text.indexOf(ends[i + 1]));
+            keep(names[i], section.replace("## " + names[i], ""));
         }
         for (int n = 1; n <= PROMISES; n++) {
             int from = text.indexOf("## Promise " + n + ":");
@@ -36,6 +42,16 @@ final class Document {
     private void keep(String name, String text) {
         sections.put(name, text);
         named.put(name, new boolean[text.length()]);
+    }
+
+    /** What the class declares for all to use, in the order of the document; nothing without the document. */
+    List<String> face() {
+        List<String> all = new ArrayList<>();
+        Matcher found = Pattern.compile("public [^;{]*[;{]").matcher(sections.getOrDefault("The public face", ""));
+        while (found.find()) {
+            all.add(found.group());
+        }
+        return all;
     }
 
     /** Marks a sentence as named; false, if that section does not say it. */
@@ -66,7 +82,7 @@ final class Document {
                     open.append(text.charAt(i));
                 } else {
                     // the numbers of the sections, and how the text is set, are no sentences
-                    if (open.toString().replaceAll("\\b(I|II|III|IV)\\. |```text", "")
+                    if (open.toString().replaceAll("\\b(I|II|III|IV)\\. |```(text|java)", "")
                             .matches(".*[a-zA-Z0-9].*")) {
                         places++;
                         System.out.println("no test names, in " + section.getKey() + ": " + open);

@@ -58,14 +58,22 @@ abstract class Edges {
         return wrong == 0;
     }
 
-    /** A new object; where: "I" to "IV", "constants" or a promise's number, behind a colon the promises it is of. */
+    /**
+     * A new object; where: "What it is", "The public face", "I" to "IV", "constants" or a promise's number, behind a
+     * colon the promises it is of.
+     */
     static void edge(String where, String sentence) {
-        about = (where.matches("\\d.*") ? "Promise " : "Terms ") + where + ", \"" + sentence + "\"";
+        String part = where.matches("\\d.*") ? "Promise " : where.matches("[A-Z][a-z].*") ? "" : "Terms ";
+        about = part + where + ", \"" + sentence + "\"";
         edges++;
         if (!document.name(where.split(":")[0], sentence)) {
             fail("the document does not say so there");
         }
         again();
+    }
+
+    static List<String> face() {
+        return document.face();
     }
 
     /** A new object for the same sentence. */

@@ -11,6 +11,7 @@ public final class EdgesTest {
 
     public static void main(String[] args) throws IOException {
         Edges.open();
+        StartEdges.run();
         TermsEdges.run();
         LanguageEdges.run();
         OrdersEdges.run();

@@ -1,4 +1,4 @@
-/** Promises 40 to 43: IMAGES, and what is counted; and the calls an object is meant for. */
+/** Promises 40 to 43: IMAGES, and what is counted. */
 final class KeepCallsEdges extends Edges {
     private KeepCallsEdges() {
     }
@@ -9,7 +9,6 @@ final class KeepCallsEdges extends Edges {
         countCalls();
         countRefused();
         statusCalls();
-        allCalls();
     }
 
     private static void imageCalls() {
@@ -261,14 +260,5 @@ final class KeepCallsEdges extends Edges {
             go(reader);
             idle(0, "status");
         }
-    }
-
-    private static void allCalls() {
-        // "An object is used for at most 512 calls after it has been made": up to the last one it answers as ever
-        again();
-        for (int i = 1; i <= 511; i++) {
-            due(i, "pass");
-        }
-        due(512, "pass");
     }
 }
