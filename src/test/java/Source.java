@@ -3,6 +3,7 @@ import com.sun.source.tree.BinaryTree;
 import com.sun.source.tree.ClassTree;
 import com.sun.source.tree.CompilationUnitTree;
 import com.sun.source.tree.ConditionalExpressionTree;
+import com.sun.source.tree.DoWhileLoopTree;
 import com.sun.source.tree.ExpressionTree;
 import com.sun.source.tree.ForLoopTree;
 import com.sun.source.tree.IdentifierTree;
@@ -287,14 +288,21 @@ final class Source extends TreePathScanner<Void, Void> {
 
     @Override
     public Void visitForLoop(ForLoopTree tree, Void p) {
-        rule(9, tree.getCondition() != null, "line " + line(tree) + " has no end that can be seen");
+        rule(9, Loops.ends(tree), "line " + line(tree) + " has no end that can be seen");
         return super.visitForLoop(tree, p);
     }
 
     @Override
     public Void visitWhileLoop(WhileLoopTree tree, Void p) {
-        rule(9, !tree.getCondition().toString().equals("(true)"), "line " + line(tree) + " has no end to be seen");
+        rule(9, Loops.ends(tree), "line " + line(tree) + " has no end that can be seen");
         return super.visitWhileLoop(tree, p);
+    }
+
+    @Override
+    public Void visitDoWhileLoop(DoWhileLoopTree tree, Void p) {
+        // the rules leave them, but Loops can't judge them: the class has none
+        never(9, tree);
+        return super.visitDoWhileLoop(tree, p);
     }
 
     @Override
